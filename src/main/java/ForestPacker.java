@@ -20,7 +20,7 @@ public final class ForestPacker {
 
     private final Graph graph;
 
-    /** The packing into k forests at index k, each made when it is first asked for. */
+    /** The packing into k forests at index k, packed anew when asked for after a change. */
     private final Packing[] packings;
 
     public ForestPacker() {
@@ -289,7 +289,9 @@ public final class ForestPacker {
             }
             int edges = 0;
             int meet = b;
-            for (int step = 0; step < MAX_VERTICES && meet >= 0 && (above >> meet & 1) == 0; step++) {
+            for (int step = 0;
+                    step < MAX_VERTICES && meet >= 0 && (above >> meet & 1) == 0;
+                    step++) {
                 edges |= edgeUp[meet];
                 meet = parent[meet];
             }
@@ -344,12 +346,12 @@ public final class ForestPacker {
         /** The edges that no search may move from their forests, as bits. */
         private int fixed = 0;
 
-        /** The edges that the last search would have move, as bits, and in the order it met them. */
+        /** The edges that the last search would have move, as bits and in the order it met them. */
         private int reached = 0;
         private final int[] queue = new int[MAX_EDGES];
         private int queued = 0;
 
-        /** For a reached edge the one that would take its place; NONE for the edge looked for. */
+        /** For a reached edge the one that would take its place; NONE: the new one. */
         private final int[] follower = new int[MAX_EDGES];
 
         /** The edge that can move without making another move (NONE: the new one), and where to. */
@@ -389,22 +391,22 @@ public final class ForestPacker {
                 return;
             }
             for (int e = 0; e < MAX_EDGES; e++) {
+                fixed |= 1 << e;
                 int last = place[e];
-                for (int f = 0; f < last; f++) {
+                for (int f = 0; f < last && f < forests.length; f++) {
                     if (movesTo(graph, e, f)) {
                         break;
                     }
                 }
-                fixed |= 1 << e;
             }
             fixed = 0;
             isSettled = true;
         }
 
         /**
-         * Moves e to forest f if the edges that are not fixed can make way. Which edge of the ring
-         * is put out does not matter: the rest is packed, so whether one more goes in depends on
-         * the set alone.
+         * Moves e, itself fixed, to forest f if edges that are not fixed can make way. Which edge
+         * of the ring is put out does not matter: the rest is packed, so whether one more goes in
+         * depends on the set alone.
          */
         private boolean movesTo(Graph graph, int e, int f) {
             int ring = forests[f].way(graph.lesser[e], graph.greater[e]);
@@ -421,12 +423,10 @@ public final class ForestPacker {
             remove(graph, out);
             remove(graph, e);
             put(graph, e, f);
-            fixed |= 1 << e;
             if (findRoom(graph, graph.lesser[out], graph.greater[out])) {
                 takeIn(graph, out);
                 return true;
             }
-            fixed &= ~(1 << e);
             remove(graph, e);
             put(graph, e, old);
             put(graph, out, f);
@@ -470,7 +470,7 @@ public final class ForestPacker {
             return false;
         }
 
-        /** Reaches the rings that e would close; ends with true at a forest in which it closes none. */
+        /** Reaches the rings that e would close; true at once at a forest where it closes none. */
         private boolean reachFrom(int e, int a, int b) {
             for (int f = 0; f < forests.length; f++) {
                 int ring = forests[f].way(a, b);
