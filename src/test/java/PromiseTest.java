@@ -30,28 +30,6 @@ public final class PromiseTest {
         due.end();
     }
 
-    /** A graph with the edges 0, 1, .. between the vertices that two digits each tell. */
-    private static ForestPacker graph(int n, int... edges) {
-        ForestPacker x = new ForestPacker();
-        due.is("begin", x.begin(n), 0);
-        for (int e = 0; e < edges.length; e++) {
-            due.is("join", x.join(edges[e] / 10, edges[e] % 10), e);
-        }
-        return x;
-    }
-
-    private static ForestPacker parallels(int count) {
-        ForestPacker x = graph(2);
-        for (int e = 0; e < count; e++) {
-            due.is("join", x.join(e & 1, 1 - (e & 1)), e);
-        }
-        return x;
-    }
-
-    private static ForestPacker k4() {
-        return graph(4, 1, 2, 3, 12, 13, 23);
-    }
-
     private static void promise1() {
         ForestPacker x = new ForestPacker();
         due.is("1: vertices", x.told(0, 3), 1);
@@ -66,7 +44,7 @@ public final class PromiseTest {
     }
 
     private static void promise2() {
-        ForestPacker x = graph(3, 1, 12, 2);
+        ForestPacker x = Graphs.graph(3, 1, 12, 2);
         due.is("2: held before", x.most(2), 3);
         for (int n : NO_VERTEX_COUNT) {
             due.is("2: begin wrong", x.begin(n), BAD);
@@ -85,7 +63,7 @@ public final class PromiseTest {
     }
 
     private static void promise3() {
-        ForestPacker x = graph(10, 1, 10, 98, 89);
+        ForestPacker x = Graphs.graph(10, 1, 10, 98, 89);
         due.is("3: same vertex", x.join(3, 3), BAD);
         due.is("3: below", x.join(-1, 3), BAD);
         due.is("3: below, second", x.join(3, -1), BAD);
@@ -115,7 +93,7 @@ public final class PromiseTest {
     }
 
     private static void promise4() {
-        ForestPacker x = graph(10, 73, 2, 98);
+        ForestPacker x = Graphs.graph(10, 73, 2, 98);
         due.is("4: turned round", x.cut(0), 37);
         due.is("4: gone", x.cut(0), NONE);
         due.is("4: with 0", x.cut(1), 2);
@@ -131,7 +109,7 @@ public final class PromiseTest {
     }
 
     private static void promise5() {
-        ForestPacker x = k4();
+        ForestPacker x = Graphs.k4();
         int[] want = {0, 3, 6, 6, 6, 6, 6};
         for (int k = 0; k <= 6; k++) {
             due.is("5: K4", x.most(k), want[k]);
@@ -139,15 +117,15 @@ public final class PromiseTest {
         for (int k : NO_FOREST_COUNT) {
             due.is("5: wrong k", x.most(k), BAD);
         }
-        ForestPacker y = parallels(24);
+        ForestPacker y = Graphs.parallels(24);
         for (int k = 0; k <= 6; k++) {
             due.is("5: parallels", y.most(k), k);
         }
-        due.is("5: two parts", graph(6, 1, 12, 2, 34, 45, 35).most(1), 4);
+        due.is("5: two parts", Graphs.graph(6, 1, 12, 2, 34, 45, 35).most(1), 4);
     }
 
     private static void promise6() {
-        ForestPacker x = parallels(3);
+        ForestPacker x = Graphs.parallels(3);
         due.is("6: first", x.held(2, 0), 1);
         due.is("6: second", x.held(2, 1), 1);
         due.is("6: third", x.held(2, 2), 0);
@@ -167,13 +145,13 @@ public final class PromiseTest {
             due.is("6: wrong k", x.held(k, 0), BAD);
             due.is("6: BAD before NONE", x.held(k, 3), BAD);
         }
-        ForestPacker y = graph(4, 1, 12, 2, 23);
+        ForestPacker y = Graphs.graph(4, 1, 12, 2, 23);
         due.is("6: ring", y.held(1, 2), 0);
         due.is("6: behind the ring", y.held(1, 3), 1);
     }
 
     private static void promise7() {
-        ForestPacker x = k4();
+        ForestPacker x = Graphs.k4();
         // edge 2 would leave the triangle 12, 13, 23 to forest 1; edge 3 closes 01, 02, 12
         int[] want = {0, 0, 1, 1, 0, 1};
         for (int e = 0; e < 6; e++) {
@@ -195,15 +173,15 @@ public final class PromiseTest {
         due.is("7: all still held", x.most(2), 6);
         due.is("7: cut", x.cut(5), 23);
         due.is("7: room for 2 now", x.forest(2, 2), 0);
-        ForestPacker y = parallels(7);
+        ForestPacker y = Graphs.parallels(7);
         for (int e = 0; e < 7; e++) {
             due.is("7: parallel " + e, y.forest(6, e), e < 6 ? e : NONE);
         }
-        due.is("7: least forest though six are free", graph(3, 1, 12).forest(6, 1), 0);
+        due.is("7: least forest though six are free", Graphs.graph(3, 1, 12).forest(6, 1), 0);
     }
 
     private static void promise8() {
-        ForestPacker x = graph(4, 1, 12, 23, 2);
+        ForestPacker x = Graphs.graph(4, 1, 12, 23, 2);
         due.is("8: count", x.why(1, 3, NONE), 3);
         due.is("8: of the ring", x.why(1, 3, 0), 1);
         due.is("8: of the ring", x.why(1, 3, 1), 1);
@@ -212,21 +190,21 @@ public final class PromiseTest {
         due.is("8: no forest, count", x.why(0, 2, NONE), 1);
         due.is("8: no forest, itself", x.why(0, 2, 2), 1);
         due.is("8: no forest, another", x.why(0, 2, 0), 0);
-        ForestPacker y = parallels(4);
+        ForestPacker y = Graphs.parallels(4);
         due.is("8: parallels", y.why(2, 3, NONE), 3);
         due.is("8: another that is not held", y.why(2, 3, 2), 0);
         // 01 thrice fills two forests between 0 and 1 alone, whatever else hangs on them
-        ForestPacker z = graph(4, 12, 1, 13, 1, 1);
+        ForestPacker z = Graphs.graph(4, 12, 1, 13, 1, 1);
         due.is("8: through both forests", z.why(2, 4, NONE), 3);
         due.is("8: not the pendant", z.why(2, 4, 0), 0);
-        ForestPacker k4 = k4();
+        ForestPacker k4 = Graphs.k4();
         due.is("8: join", k4.join(0, 3), 6);
         due.is("8: after forest", k4.forest(2, 6), NONE);
         due.is("8: all of K4", k4.why(2, 6, NONE), 7);
     }
 
     private static void promise8WrongInputs() {
-        ForestPacker x = graph(4, 1, 12, 23, 2);
+        ForestPacker x = Graphs.graph(4, 1, 12, 23, 2);
         due.is("8: held", x.why(1, 0, NONE), NONE);
         due.is("8: held, itself", x.why(1, 0, 0), NONE);
         due.is("8: no such f", x.why(1, 3, 4), NONE);
@@ -244,7 +222,7 @@ public final class PromiseTest {
     }
 
     private static void promise9() {
-        ForestPacker x = graph(3, 1);
+        ForestPacker x = Graphs.graph(3, 1);
         due.is("9: joined", x.tight(1, 0, 1), 1);
         due.is("9: turned round", x.tight(1, 1, 0), 1);
         due.is("9: apart", x.tight(1, 0, 2), 0);
@@ -261,15 +239,15 @@ public final class PromiseTest {
             due.is("9: no vertex", x.tight(1, 0, v), BAD);
             due.is("9: no vertex twice", x.tight(1, v, v), BAD);
         }
-        ForestPacker y = parallels(24);
+        ForestPacker y = Graphs.parallels(24);
         due.is("9: 24 edges", y.tight(6, 0, 1), 1);
-        due.is("9: through others", graph(3, 1, 12).tight(1, 0, 2), 1);
-        due.is("9: K4 is full in 2", k4().tight(2, 0, 3), 1);
-        due.is("9: K4 is not in 3", k4().tight(3, 0, 3), 0);
+        due.is("9: through others", Graphs.graph(3, 1, 12).tight(1, 0, 2), 1);
+        due.is("9: K4 is full in 2", Graphs.k4().tight(2, 0, 3), 1);
+        due.is("9: K4 is not in 3", Graphs.k4().tight(3, 0, 3), 0);
     }
 
     private static void promise10And11() {
-        ForestPacker x = graph(5, 1, 1, 23, 1);
+        ForestPacker x = Graphs.graph(5, 1, 1, 23, 1);
         int[] classes = {1, 3, 4, 4, 5};
         int[] crossing = {0, 0, 1, 1, 4};
         for (int k = 0; k <= 4; k++) {
@@ -280,65 +258,65 @@ public final class PromiseTest {
             due.is("10: wrong k", x.classes(k), BAD);
             due.is("11: wrong k", x.crossing(k), BAD);
         }
-        due.is("10: K4 in 2", k4().classes(2), 1);
-        due.is("11: K4 in 2", k4().crossing(2), 0);
-        due.is("10: without edges", graph(10).classes(1), 10);
-        due.is("10: without edges, no forest", graph(10).classes(0), 1);
-        due.is("11: without edges", graph(10).crossing(6), 0);
+        due.is("10: K4 in 2", Graphs.k4().classes(2), 1);
+        due.is("11: K4 in 2", Graphs.k4().crossing(2), 0);
+        due.is("10: without edges", Graphs.graph(10).classes(1), 10);
+        due.is("10: without edges, no forest", Graphs.graph(10).classes(0), 1);
+        due.is("11: without edges", Graphs.graph(10).crossing(6), 0);
         // two pairs, each full in 2, and one edge between them
-        ForestPacker y = graph(4, 1, 1, 23, 23, 12);
+        ForestPacker y = Graphs.graph(4, 1, 1, 23, 23, 12);
         due.is("10: two pairs", y.classes(2), 2);
         due.is("11: between the pairs", y.crossing(2), 1);
     }
 
     private static void promise12() {
-        due.is("12: without edges", graph(10).arboricity(), 0);
-        due.is("12: tree", graph(4, 1, 2, 3).arboricity(), 1);
-        due.is("12: triangle", graph(3, 1, 12, 2).arboricity(), 2);
-        due.is("12: K4", k4().arboricity(), 2);
-        due.is("12: K5", graph(5, 1, 2, 3, 4, 12, 13, 14, 23, 24, 34).arboricity(), 3);
+        due.is("12: without edges", Graphs.graph(10).arboricity(), 0);
+        due.is("12: tree", Graphs.graph(4, 1, 2, 3).arboricity(), 1);
+        due.is("12: triangle", Graphs.graph(3, 1, 12, 2).arboricity(), 2);
+        due.is("12: K4", Graphs.k4().arboricity(), 2);
+        due.is("12: K5", Graphs.graph(5, 1, 2, 3, 4, 12, 13, 14, 23, 24, 34).arboricity(), 3);
         for (int count = 1; count <= 6; count++) {
-            due.is("12: parallels", parallels(count).arboricity(), count);
+            due.is("12: parallels", Graphs.parallels(count).arboricity(), count);
         }
-        ForestPacker x = parallels(7);
+        ForestPacker x = Graphs.parallels(7);
         due.is("12: above 6", x.arboricity(), NONE);
         due.is("12: cut", x.cut(3), 1);
         due.is("12: 6 again", x.arboricity(), 6);
-        due.is("12: 24", parallels(24).arboricity(), NONE);
+        due.is("12: 24", Graphs.parallels(24).arboricity(), NONE);
     }
 
     private static void promise13() {
-        due.is("13: without edges", graph(10).dense(), 0);
-        due.is("13: above 6", parallels(7).dense(), NONE);
-        due.is("13: six", parallels(6).dense(), 3);
-        due.is("13: one edge", graph(10, 74).dense(), 1 << 7 | 1 << 4);
-        ForestPacker x = graph(4, 1, 23);
+        due.is("13: without edges", Graphs.graph(10).dense(), 0);
+        due.is("13: above 6", Graphs.parallels(7).dense(), NONE);
+        due.is("13: six", Graphs.parallels(6).dense(), 3);
+        due.is("13: one edge", Graphs.graph(10, 74).dense(), 1 << 7 | 1 << 4);
+        ForestPacker x = Graphs.graph(4, 1, 23);
         due.is("13: first edge", x.dense(), 3);
         due.is("13: cut", x.cut(0), 1);
         due.is("13: edge 1 is first", x.dense(), 12);
         due.is("13: join", x.join(3, 0), 0);
         due.is("13: edge 0 is first", x.dense(), 9);
-        due.is("13: triangle with tails", graph(6, 1, 12, 23, 34, 42, 45).dense(), 4 + 8 + 16);
-        due.is("13: first of two rings", graph(6, 34, 45, 35, 1, 12, 2).dense(), 8 + 16 + 32);
-        due.is("13: K4", k4().dense(), 7);
-        due.is("13: K5", graph(5, 1, 2, 3, 4, 12, 13, 14, 23, 24, 34).dense(), 31);
+        due.is("13: triangle with tails", Graphs.graph(6, 1, 12, 23, 34, 42, 45).dense(), 4 + 8 + 16);
+        due.is("13: first of two rings", Graphs.graph(6, 34, 45, 35, 1, 12, 2).dense(), 8 + 16 + 32);
+        due.is("13: K4", Graphs.k4().dense(), 7);
+        due.is("13: K5", Graphs.graph(5, 1, 2, 3, 4, 12, 13, 14, 23, 24, 34).dense(), 31);
     }
 
     private static void promise14() {
-        due.is("14: one vertex", graph(1).spanning(), 6);
-        due.is("14: apart", graph(2).spanning(), 0);
+        due.is("14: one vertex", Graphs.graph(1).spanning(), 6);
+        due.is("14: apart", Graphs.graph(2).spanning(), 0);
         for (int count = 1; count <= 6; count++) {
-            due.is("14: parallels", parallels(count).spanning(), count);
+            due.is("14: parallels", Graphs.parallels(count).spanning(), count);
         }
-        due.is("14: no more than 6", parallels(24).spanning(), 6);
-        due.is("14: triangle", graph(3, 1, 12, 2).spanning(), 1);
-        due.is("14: K4", k4().spanning(), 2);
-        due.is("14: a part left out", graph(4, 1, 1, 12, 12, 2, 2).spanning(), 0);
-        due.is("14: one edge to the fourth", graph(4, 1, 1, 12, 12, 2, 23).spanning(), 1);
+        due.is("14: no more than 6", Graphs.parallels(24).spanning(), 6);
+        due.is("14: triangle", Graphs.graph(3, 1, 12, 2).spanning(), 1);
+        due.is("14: K4", Graphs.k4().spanning(), 2);
+        due.is("14: a part left out", Graphs.graph(4, 1, 1, 12, 12, 2, 2).spanning(), 0);
+        due.is("14: one edge to the fourth", Graphs.graph(4, 1, 1, 12, 12, 2, 23).spanning(), 1);
     }
 
     private static void promise15() {
-        ForestPacker x = graph(10, 83, 9, 38);
+        ForestPacker x = Graphs.graph(10, 83, 9, 38);
         due.is("15: lesser", x.told(0, 0), 3);
         due.is("15: greater", x.told(0, 1), 8);
         due.is("15: lesser 0", x.told(1, 0), 0);
@@ -367,8 +345,8 @@ public final class PromiseTest {
     }
 
     private static void objectsStandApart() {
-        ForestPacker x = k4();
-        ForestPacker y = graph(3, 1, 12, 2);
+        ForestPacker x = Graphs.k4();
+        ForestPacker y = Graphs.graph(3, 1, 12, 2);
         due.is("two objects: first", x.most(2), 6);
         due.is("two objects: second", y.most(2), 3);
         due.is("two objects: first again", x.told(0, 2), 6);
