@@ -231,6 +231,8 @@ public final class BoundaryPackingTest {
         forestsAre("K4 in 3", x, 3, 0, 0, 0, 1, 1, 2);
         // three that join 0 and 3 need all three forests, so 23 and 02 may not share one
         forestsAre("three 03 in 3", Graphs.graph(4, 23, 2, 3, 3, 3), 3, 0, 1, 0, 1, 2);
+        // 02 twice and 23 leave 13 no place in forest 0; edge 0 itself moves while they are packed
+        forestsAre("two trees in 2", Graphs.graph(4, 10, 13, 3, 2, 23, 20), 2, 0, 1, 0, 0, 1, 1);
         forestsAre("three 01 in 3", Graphs.graph(4, 3, 13, 1, 1, 3, 1), 3, 0, 1, 0, 1, 2, 2);
     }
 
