@@ -283,15 +283,16 @@ public final class ForestPacker {
         int way(int a, int b) {
             int above = 0;
             int v = a;
-            for (int step = 0; step < MAX_VERTICES && v >= 0; step++) {
+            for (int step = 0; step < MAX_VERTICES && v >= 0 && v < MAX_VERTICES; step++) {
                 above |= 1 << v;
                 v = parent[v];
             }
             int edges = 0;
             int meet = b;
-            for (int step = 0;
-                    step < MAX_VERTICES && meet >= 0 && (above >> meet & 1) == 0;
-                    step++) {
+            for (int step = 0; step < MAX_VERTICES && meet >= 0 && meet < MAX_VERTICES; step++) {
+                if ((above >> meet & 1) == 1) {
+                    break;
+                }
                 edges |= edgeUp[meet];
                 meet = parent[meet];
             }
@@ -299,7 +300,10 @@ public final class ForestPacker {
                 return APART;
             }
             v = a;
-            for (int step = 0; step < MAX_VERTICES && v >= 0 && v != meet; step++) {
+            for (int step = 0; step < MAX_VERTICES && v >= 0 && v < MAX_VERTICES; step++) {
+                if (v == meet) {
+                    break;
+                }
                 edges |= edgeUp[v];
                 v = parent[v];
             }
@@ -314,7 +318,9 @@ public final class ForestPacker {
             int child = b;
             int newParent = a;
             int newEdge = edge;
-            for (int step = 0; step < MAX_VERTICES && child >= 0; step++) {
+            for (int step = 0;
+                    step < MAX_VERTICES && child >= 0 && child < MAX_VERTICES;
+                    step++) {
                 int oldParent = parent[child];
                 int oldEdge = edgeUp[child];
                 parent[child] = newParent;
@@ -325,10 +331,13 @@ public final class ForestPacker {
             }
         }
 
-        void unlink(int edge, int a, int b) {
-            int child = edgeUp[a] == edge ? a : b;
-            parent[child] = NONE;
-            edgeUp[child] = 0;
+        void unlink(int edge) {
+            for (int v = 0; v < MAX_VERTICES; v++) {
+                if (edgeUp[v] == edge) {
+                    parent[v] = NONE;
+                    edgeUp[v] = 0;
+                }
+            }
         }
     }
 
@@ -365,7 +374,7 @@ public final class ForestPacker {
             }
         }
 
-        /** Lesser numbers come first, so what is held in the end is what the document calls HELD. */
+        /** Lesser numbers come first, so what is held in the end is the document's HELD. */
         void pack(Graph graph) {
             for (int f = 0; f < forests.length; f++) {
                 forests[f].clear();
@@ -411,7 +420,7 @@ public final class ForestPacker {
         private boolean movesTo(Graph graph, int e, int f) {
             int ring = forests[f].way(graph.lesser[e], graph.greater[e]);
             if (ring == APART) {
-                remove(graph, e);
+                remove(e);
                 put(graph, e, f);
                 return true;
             }
@@ -420,14 +429,14 @@ public final class ForestPacker {
                 return false;
             }
             int old = place[e];
-            remove(graph, out);
-            remove(graph, e);
+            remove(out);
+            remove(e);
             put(graph, e, f);
             if (findRoom(graph, graph.lesser[out], graph.greater[out])) {
                 takeIn(graph, out);
                 return true;
             }
-            remove(graph, e);
+            remove(e);
             put(graph, e, old);
             put(graph, out, f);
             return false;
@@ -463,7 +472,7 @@ public final class ForestPacker {
             }
             for (int head = 0; head < queued && head < MAX_EDGES; head++) {
                 int e = queue[head];
-                if (reachFrom(e, graph.lesser[e], graph.greater[e])) {
+                if (graph.hasEdge(e) && reachFrom(e, graph.lesser[e], graph.greater[e])) {
                     return true;
                 }
             }
@@ -504,9 +513,9 @@ public final class ForestPacker {
         private void takeIn(Graph graph, int e) {
             int target = room;
             int moved = lastMoved;
-            for (int step = 0; step < MAX_EDGES && moved >= 0; step++) {
+            for (int step = 0; step < MAX_EDGES && graph.hasEdge(moved); step++) {
                 int old = place[moved];
-                remove(graph, moved);
+                remove(moved);
                 put(graph, moved, target);
                 target = old;
                 moved = follower[moved];
@@ -521,10 +530,10 @@ public final class ForestPacker {
             }
         }
 
-        private void remove(Graph graph, int e) {
+        private void remove(int e) {
             int f = place[e];
             if (f >= 0 && f < forests.length) {
-                forests[f].unlink(1 << e, graph.lesser[e], graph.greater[e]);
+                forests[f].unlink(1 << e);
                 place[e] = NONE;
             }
         }

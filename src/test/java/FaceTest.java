@@ -5,7 +5,7 @@ import java.lang.reflect.Modifier;
 import java.util.Set;
 import java.util.TreeSet;
 
-/** The class shows the document's face, and nothing besides. */
+/** The class shows the document's face and nothing besides; what is inside keeps to the rules on it. */
 public final class FaceTest {
 
     public static void main(String[] args) {
@@ -40,7 +40,39 @@ public final class FaceTest {
             System.out.println("the face is " + shown + ", due is " + due);
             System.exit(1);
         }
+        if (!insideIsRight(ForestPacker.class, shown)) {
+            System.exit(1);
+        }
         System.out.println("the face is as due");
+    }
+
+    /** What LANGUAGE.md's rules 1 and 5 ask of the members that the face does not show. */
+    private static boolean insideIsRight(Class<?> type, Set<String> face) {
+        boolean right = true;
+        for (Method method : type.getDeclaredMethods()) {
+            boolean isFace = type == ForestPacker.class && Modifier.isPublic(method.getModifiers());
+            for (String shown : face) {
+                if (!isFace && shown.startsWith(method.getName() + "(")) {
+                    System.out.println(type.getName() + "." + method.getName() + " bears the name of a public method");
+                    right = false;
+                }
+            }
+        }
+        for (Field field : type.getDeclaredFields()) {
+            if (Modifier.isStatic(field.getModifiers()) && !Modifier.isFinal(field.getModifiers())) {
+                System.out.println(type.getName() + "." + field.getName() + " is static and not final");
+                right = false;
+            }
+        }
+        for (Class<?> inside : type.getDeclaredClasses()) {
+            int modifiers = inside.getModifiers();
+            if (Modifier.isPublic(modifiers) || Modifier.isProtected(modifiers) || !Modifier.isStatic(modifiers)) {
+                System.out.println(inside.getName() + " is shown or not static");
+                right = false;
+            }
+            right &= insideIsRight(inside, face);
+        }
+        return right;
     }
 
     private static String types(Class<?>[] parameters) {
